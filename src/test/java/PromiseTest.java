@@ -344,6 +344,12 @@ public final class PromiseTest {
         x.close(3, 5);
         due("merge", x.merge(1, 2, 9999), 1);
         writes(x, 4, "F9999:1 P9999:2");
+        // From the first day of all on, the parent that ended never was one.
+        x = country();
+        due("merge", x.merge(1, 2, 0), 1);
+        due("on(3, 0, 2)", x.on(3, 0, 2), 2);
+        due("again(3, 0)", x.again(3, 0), 2);
+        writes(x, 3, "F0:1 P0:2");
     }
 
     private static void closing() {
@@ -353,6 +359,7 @@ public final class PromiseTest {
         refused("close before day 0", x, x.close(1, -1), 2);
         refused("close behind the last day", x, x.close(1, 10000), 2);
         refused("close of a parent", x, x.close(1, 5), 7);
+        refused("close of a parent on the first day", x, x.close(1, 0), 7);
         refused("close of a parent on the last day", x, x.close(1, 9999), 7);
         due("move", x.move(3, 2, 30), 1);
         refused("close of one that is a parent later", x, x.close(1, 29), 7);
@@ -680,6 +687,8 @@ public final class PromiseTest {
         due("a ninth one", x.join(0, 0, 0), -4);
         due("a ninth one of none", x.join(0, 0, 8), -1);
         due("changes", x.count(3), 6);
+        due("back over the last one that was made", x.back(), 5);
+        due("filters", x.count(1), 7);
     }
 
     private static void drops() {
