@@ -3,6 +3,7 @@ import java.util.Arrays;
 import java.util.HashSet;
 import java.util.List;
 import java.util.Random;
+import java.util.function.ToIntFunction;
 import java.util.regex.Matcher;
 import java.util.regex.Pattern;
 
@@ -488,15 +489,22 @@ public final class ModelTest {
 
     // ---- the runs ----
 
+    // No object is asked for more than this; what it answers later is free.
+    private static final int CALLS = 512;
+    // The rest of the calls is left for asking what is held.
+    private static final int TOLD = 400;
+
     private final Random random;
     private final PlaceRegister x = new PlaceRegister();
+    private final ArrayList<ToIntFunction<PlaceRegister>> told = new ArrayList<>();
     private final ArrayList<String> calls = new ArrayList<>();
     private boolean wrong = false;
     private final int span;
     // Whether many events come to one place, so that its history grows long.
     private final boolean busy;
-    // Calls that are not counted among the 512.
-    private int beside = 0;
+    // Another object that was told the same, to be asked without end: it is made anew when its calls are used up.
+    private PlaceRegister twin;
+    private int twinCalls;
 
     private ModelTest(long seed) {
         random = new Random(seed);
@@ -504,13 +512,33 @@ public final class ModelTest {
         span = new int[] {6, 30, 200, DAYS}[(int) (seed & 3)];
     }
 
-    private void same(String call, int got, int due) {
+    private void same(String call, ToIntFunction<PlaceRegister> told, int due) {
+        this.told.add(told);
         calls.add(call + " = " + due);
+        compare(told.applyAsInt(x), due);
+    }
+
+    private void compare(int got, int due) {
         if (got != due && !wrong) {
             wrong = true;
             System.out.println(String.join("\n", calls));
             System.out.println("answered " + got);
         }
+    }
+
+    private void ask(String call, ToIntFunction<PlaceRegister> question, int due) {
+        // A question is at most two calls.
+        if (twinCalls + 2 > CALLS) {
+            twin = new PlaceRegister();
+            for (ToIntFunction<PlaceRegister> each : told) {
+                each.applyAsInt(twin);
+            }
+            twinCalls = told.size();
+        }
+        twinCalls += 2;
+        calls.add(call + " = " + due);
+        compare(question.applyAsInt(twin), due);
+        calls.remove(calls.size() - 1);
     }
 
     private int below(int n) {
@@ -552,9 +580,7 @@ public final class ModelTest {
             int n = Math.min(5, text.length() - i);
             int[] b = new int[5];
             for (int k = 0; k < n; k++) b[k] = text.charAt(i + k);
-            same("feed(" + text.substring(i, i + n) + ")", x.feed(n, b[0], b[1], b[2], b[3], b[4]), feed(n, b));
-            // Beyond what is promised; this program counts orders, not calls.
-            if (busy) beside++;
+            same("feed(" + text.substring(i, i + n) + ")", r -> r.feed(n, b[0], b[1], b[2], b[3], b[4]), feed(n, b));
         }
     }
 
@@ -607,50 +633,50 @@ public final class ModelTest {
         int p = aPlace();
         int day = aDayFor(p);
         int kind = is(p) ? now.places.get(p).kind : 2;
-        switch (below(22)) {
+        switch (busy && below(2) == 0 ? 7 : below(22)) {
             case 0: case 1: case 2: case 3: case 4: {
                 int k = below(20) == 0 ? below(7) - 1 : now.places.size() < 2 ? 0 : below(4);
                 int parent = aParentFor(k);
                 int d = below(3) == 0 || !is(parent) ? aDay() : aDayFor(parent);
                 feedText(aWord());
                 String w = word();
-                same("found(" + k + "," + parent + "," + d + ")", x.found(k, parent, d),
+                same("found(" + k + "," + parent + "," + d + ")", r -> r.found(k, parent, d),
                     k < 0 || k > 3 ? -1 : change('f', k, parent, d, w));
                 break;
             }
             case 5: case 6: {
                 feedText(aWord());
-                same("rename(" + p + "," + day + ")", x.rename(p, day), change('r', p, 0, day, word()));
+                same("rename(" + p + "," + day + ")", r -> r.rename(p, day), change('r', p, 0, day, word()));
                 break;
             }
             case 7: case 8: case 9: case 10: case 11: {
                 int parent = aParentFor(kind);
-                same("move(" + p + "," + parent + "," + day + ")", x.move(p, parent, day), change('m', p, parent, day, null));
+                same("move(" + p + "," + parent + "," + day + ")", r -> r.move(p, parent, day), change('m', p, parent, day, null));
                 break;
             }
             case 12: case 13: {
                 feedText(aWord());
-                same("split(" + p + "," + day + ")", x.split(p, day), change('s', p, 0, day, word()));
+                same("split(" + p + "," + day + ")", r -> r.split(p, day), change('s', p, 0, day, word()));
                 break;
             }
             case 14: case 15: case 16: {
                 if (busy && below(3) > 0) break;
                 int into = aSister(p);
-                same("merge(" + p + "," + into + "," + day + ")", x.merge(p, into, day), change('g', p, into, day, null));
+                same("merge(" + p + "," + into + "," + day + ")", r -> r.merge(p, into, day), change('g', p, into, day, null));
                 break;
             }
             case 17:
                 if (busy && below(4) > 0) break;
-                same("close(" + p + "," + day + ")", x.close(p, day), change('c', p, 0, day, null));
+                same("close(" + p + "," + day + ")", r -> r.close(p, day), change('c', p, 0, day, null));
                 break;
             case 18: case 19: case 20:
                 feedText(aText());
-                same("run()", x.run(), run());
+                same("run()", r -> r.run(), run());
                 break;
             default:
-                if (below(3) == 0) same("image()", x.image(), image());
-                else if (below(busy ? 12 : 4) == 0) same("undo()", x.undo(), undo());
-                else same("back()", x.back(), back());
+                if (below(3) == 0) same("image()", r -> r.image(), image());
+                else if (below(busy ? 12 : 4) == 0) same("undo()", r -> r.undo(), undo());
+                else same("back()", r -> r.back(), back());
         }
     }
 
@@ -660,17 +686,17 @@ public final class ModelTest {
         switch (below(4)) {
             case 0: {
                 int sort = below(12) == 0 ? below(9) - 2 : below(5);
-                same("filter(" + sort + "," + v + ")", x.filter(sort, v), filter(sort, v));
+                same("filter(" + sort + "," + v + ")", r -> r.filter(sort, v), filter(sort, v));
                 break;
             }
             case 1: case 2: {
                 int how = below(12) == 0 ? below(9) - 2 : below(3);
                 int g = below(10) - 1;
-                same("join(" + how + "," + f + "," + g + ")", x.join(how, f, g), join(how, f, g));
+                same("join(" + how + "," + f + "," + g + ")", r -> r.join(how, f, g), join(how, f, g));
                 break;
             }
             default:
-                same("drop(" + f + ")", x.drop(f), drop(f));
+                same("drop(" + f + ")", r -> r.drop(f), drop(f));
         }
     }
 
@@ -681,81 +707,107 @@ public final class ModelTest {
         switch (below(14)) {
             case 0: {
                 int w = below(22) - 1;
-                same("on(" + p + "," + day + "," + w + ")", x.on(p, day, w), on(p, day, w));
+                same("on(" + p + "," + day + "," + w + ")", r -> r.on(p, day, w), on(p, day, w));
                 break;
             }
-            case 1: same("of(" + p + "," + what + ")", x.of(p, what), of(p, what)); break;
+            case 1: same("of(" + p + "," + what + ")", r -> r.of(p, what), of(p, what)); break;
             case 2: {
                 int i = below(27) - 1;
                 int w = below(5) - 1;
-                same("event(" + p + "," + i + "," + w + ")", x.event(p, i, w), event(p, i, w));
+                same("event(" + p + "," + i + "," + w + ")", r -> r.event(p, i, w), event(p, i, w));
                 break;
             }
-            case 3: same("again(" + p + "," + day + ")", x.again(p, day), again(p, day)); break;
+            case 3: same("again(" + p + "," + day + ")", r -> r.again(p, day), again(p, day)); break;
             case 4: {
                 int distance = below(12) == 0 ? below(8) - 2 : below(4);
                 feedText(aWord());
-                same("lookup(" + day + "," + distance + ")", x.lookup(day, distance), lookup(day, distance));
+                same("lookup(" + day + "," + distance + ")", r -> r.lookup(day, distance), lookup(day, distance));
                 break;
             }
-            case 5: same("sought(" + what + ")", x.sought(what), sought(what)); break;
-            case 6: same("fits(" + what + "," + day + ")", x.fits(what, day), fits(what, day)); break;
-            case 7: same("write(" + p + ")", x.write(p), write(p)); break;
+            case 5: same("sought(" + what + ")", r -> r.sought(what), sought(what)); break;
+            case 6: same("fits(" + what + "," + day + ")", r -> r.fits(what, day), fits(what, day)); break;
+            case 7: same("write(" + p + ")", r -> r.write(p), write(p)); break;
             case 8: {
                 int i = below(80) - 1;
-                same("paper(" + i + ")", x.paper(i), paper(i));
+                same("paper(" + i + ")", r -> r.paper(i), paper(i));
                 break;
             }
             case 9: {
                 int other = aDay();
-                same("changed(" + day + "," + other + ")", x.changed(day, other), changed(day, other));
+                same("changed(" + day + "," + other + ")", r -> r.changed(day, other), changed(day, other));
                 break;
             }
-            case 10: same("longest(" + p + "," + what + ")", x.longest(p, what), longest(p, what)); break;
-            case 11: same("account(" + day + "," + what + ")", x.account(day, what), account(day, what)); break;
-            case 12: same("reason()", x.reason(), reason); break;
-            default: same("count(" + what + ")", x.count(what), count(what));
+            case 10: same("longest(" + p + "," + what + ")", r -> r.longest(p, what), longest(p, what)); break;
+            case 11: same("account(" + day + "," + what + ")", r -> r.account(day, what), account(day, what)); break;
+            case 12: same("reason()", r -> r.reason(), reason); break;
+            default: same("count(" + what + ")", r -> r.count(what), count(what));
         }
     }
 
-    /** Asks for all that is held; these questions stand beside the 512 calls, since they change nothing but the paper. */
+    /** Asks for all that is held. */
     private void everything() {
-        for (int w = 0; w < 6; w++) same("count(" + w + ")", x.count(w), count(w));
-        same("reason()", x.reason(), reason);
-        for (int i = 0; i < 21; i++) same("sought(" + i + ")", x.sought(i), sought(i));
+        twinCalls = CALLS;
+        for (int i = -1; i < 21; i++) {
+            int w = i;
+            ask("count(" + w + ")", r -> r.count(w), count(w));
+            ask("sought(" + w + ")", r -> r.sought(w), sought(w));
+            ask("paper(" + w + ")", r -> r.paper(w), paper(w));
+        }
+        ask("reason()", PlaceRegister::reason, reason);
         for (int p = 0; p < now.places.size(); p++) {
-            for (int w = 0; w < 6; w++) same("of(" + p + "," + w + ")", x.of(p, w), of(p, w));
-            for (int w = 0; w < 3; w++) same("longest(" + p + "," + w + ")", x.longest(p, w), longest(p, w));
-            same("write(" + p + ")", x.write(p), write(p));
-            for (int i = 0; i <= paper.length(); i++) same("paper(" + i + ")", x.paper(i), paper(i));
-            for (int i = 0; i < 25; i++) {
-                for (int w = 0; w < 3; w++) same("event(" + p + "," + i + "," + w + ")", x.event(p, i, w), event(p, i, w));
-            }
+            everythingOf(p);
         }
         for (int i = 0; i < 30; i++) {
-            int day = i < 8 ? i : aDay();
-            int other = aDay();
-            for (int p = 0; p < now.places.size(); p++) {
-                same("again(" + p + "," + day + ")", x.again(p, day), again(p, day));
-                for (int w = 0; w < 19; w++) same("on(" + p + "," + day + "," + w + ")", x.on(p, day, w), on(p, day, w));
-            }
-            for (int w = 0; w < 9; w++) same("account(" + day + "," + w + ")", x.account(day, w), account(day, w));
-            for (int f = 0; f < 9; f++) same("fits(" + f + "," + day + ")", x.fits(f, day), fits(f, day));
-            same("changed(" + day + "," + other + ")", x.changed(day, other), changed(day, other));
+            everythingOn(i < 8 ? i : aDay(), aDay());
         }
+    }
+
+    private void everythingOf(int p) {
+        for (int i = 0; i < 6; i++) {
+            int w = i;
+            ask("of(" + p + "," + w + ")", r -> r.of(p, w), of(p, w));
+            ask("longest(" + p + "," + w + ")", r -> r.longest(p, w), longest(p, w));
+        }
+        for (int i = 0; i < 25; i++) {
+            for (int w = 0; w < 3; w++) {
+                int what = w;
+                int e = i;
+                ask("event(" + p + "," + e + "," + what + ")", r -> r.event(p, e, what), event(p, e, what));
+            }
+        }
+        String before = paper;
+        ask("write(" + p + ")", r -> r.write(p), write(p));
+        for (int i = 0; i <= paper.length(); i++) {
+            int at = i;
+            ask("write(" + p + "), paper(" + at + ")", r -> r.write(p) < 0 ? -9 : r.paper(at), paper(at));
+        }
+        paper = before;
+    }
+
+    private void everythingOn(int day, int other) {
+        for (int i = 0; i < now.places.size(); i++) {
+            int p = i;
+            ask("again(" + p + "," + day + ")", r -> r.again(p, day), again(p, day));
+            for (int w = 0; w < 19; w++) {
+                int what = w;
+                ask("on(" + p + "," + day + "," + what + ")", r -> r.on(p, day, what), on(p, day, what));
+            }
+        }
+        for (int i = 0; i < 9; i++) {
+            int w = i;
+            ask("account(" + day + "," + w + ")", r -> r.account(day, w), account(day, w));
+            ask("fits(" + w + "," + day + ")", r -> r.fits(w, day), fits(w, day));
+        }
+        ask("changed(" + day + "," + other + ")", r -> r.changed(day, other), changed(day, other));
     }
 
     private void live() {
-        while (calls.size() - beside < 500 && !wrong) {
+        while (told.size() < TOLD && !wrong) {
             int sort = below(10);
             if (sort < 7) event();
             else if (sort < 8) filtering();
             else question();
-            if (below(60) == 0) {
-                int asked = calls.size();
-                everything();
-                beside += calls.size() - asked;
-            }
+            if (below(60) == 0) everything();
         }
         everything();
     }
