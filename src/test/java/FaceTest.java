@@ -6,6 +6,9 @@ import java.lang.reflect.Modifier;
 import java.nio.charset.StandardCharsets;
 import java.nio.file.Files;
 import java.nio.file.Path;
+import java.util.Arrays;
+import java.util.Comparator;
+import java.util.Random;
 import java.util.Set;
 import java.util.TreeSet;
 import java.util.regex.Matcher;
@@ -33,6 +36,9 @@ public final class FaceTest {
         }
         hold(PlaceRegister.class.getDeclaredClasses().length <= 12, "some twelve classes");
         words();
+        for (long seed = 0; seed < 40; seed++) {
+            anyCalls(new Random(seed));
+        }
         if (wrong) {
             System.exit(1);
         }
@@ -81,6 +87,37 @@ public final class FaceTest {
         for (Method m : inner.getDeclaredMethods()) {
             hold(m.getParameterCount() <= 7, m.getName() + " has at most seven parameters");
         }
+    }
+
+    /** No call throws, for any arguments in any state, also behind the 512th one. */
+    private static void anyCalls(Random random) {
+        Method[] methods = Arrays.stream(PlaceRegister.class.getMethods())
+            .filter(m -> m.getDeclaringClass() == PlaceRegister.class).sorted(Comparator.comparing(Method::getName))
+            .toArray(Method[]::new);
+        PlaceRegister x = new PlaceRegister();
+        for (int call = 0; call < 4000; call++) {
+            Method m = random.nextInt(3) == 0 ? null : methods[random.nextInt(methods.length)];
+            try {
+                if (m == null) {
+                    x.feed(1, 'a' + random.nextInt(26), 0, 0, 0, 0);
+                } else {
+                    m.invoke(x, Arrays.stream(m.getParameterTypes()).map(t -> (Object) anyNumber(random)).toArray());
+                }
+            } catch (ReflectiveOperationException e) {
+                hold(false, m.getName() + " threw " + e.getCause());
+                return;
+            }
+        }
+    }
+
+    private static int anyNumber(Random random) {
+        int[] edges = {Integer.MIN_VALUE, Integer.MAX_VALUE, -1, 127, 128, 9999, 10000, 19, 20, 23, 24};
+        return switch (random.nextInt(12)) {
+            case 0 -> edges[random.nextInt(edges.length)];
+            case 1 -> random.nextInt();
+            case 2 -> random.nextInt(10000);
+            default -> random.nextInt(5);
+        };
     }
 
     private static void words() throws IOException {
