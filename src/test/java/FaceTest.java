@@ -54,7 +54,7 @@ public final class FaceTest {
         Set<String> names = new TreeSet<>();
         for (Method m : face.getDeclaredMethods()) {
             if (Modifier.isPrivate(m.getModifiers())) {
-                hold(METHODS.stream().noneMatch(p -> p.substring(0, p.length() - 1).equals(m.getName())), m.getName());
+                hold(!isOfTheFace(m.getName()), m.getName() + " bears the name of a public method");
             } else {
                 open.add(m.getName() + m.getParameterCount());
                 names.add(m.getName());
@@ -86,7 +86,12 @@ public final class FaceTest {
         hold(fields <= 20, inner.getName() + " has some twenty fields");
         for (Method m : inner.getDeclaredMethods()) {
             hold(m.getParameterCount() <= 7, m.getName() + " has at most seven parameters");
+            hold(!isOfTheFace(m.getName()), inner.getName() + "." + m.getName() + " bears the name of a public method");
         }
+    }
+
+    private static boolean isOfTheFace(String name) {
+        return METHODS.stream().anyMatch(p -> p.substring(0, p.length() - 1).equals(name));
     }
 
     /** No call throws, for any arguments in any state, also behind the 512th one. */
